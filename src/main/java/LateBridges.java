@@ -711,7 +711,9 @@ public final class LateBridges {
         }
 
         void enter(int j, int b, boolean cameOver) {
-            System.arraycopy(rollEntries, 0, rollEntries, 1, MOST_ROLL - 1);
+            for (int i = MOST_ROLL - 1; i > 0; i--) {
+                rollEntries[i] = rollEntries[i - 1];
+            }
             rollEntries[0] = hours << 8 | j << 5 | b << 1 | (cameOver ? 1 : 0);
             rollSize = Math.min(rollSize + 1, MOST_ROLL);
         }
@@ -739,10 +741,6 @@ public final class LateBridges {
         final State now = new State();
         int drawSeed;
 
-        private boolean isOddHour() {
-            return now.hours % 2 == 1;
-        }
-
         int timeOf(int k) {
             return timeIfTired(k, now.tired[k]);
         }
@@ -750,7 +748,7 @@ public final class LateBridges {
         int timeIfTired(int k, int tired) {
             int need = now.need[k];
             switch (town.keeperKind[k]) {
-                case YOUNG: return isOddHour() ? need + 2 : need;
+                case YOUNG: return need + now.hours % 2 * 2;
                 case OLD: return need + tired;
                 case PROUD: return need + tired / 3;
                 default: return need;
@@ -762,7 +760,7 @@ public final class LateBridges {
             int doubt = now.doubt[j];
             switch (town.jumperKind[j]) {
                 case STRANGER: return Math.max(0, air - doubt);
-                case GIRL: return Math.max(0, air - doubt / 2 - (isOddHour() ? 1 : 0));
+                case GIRL: return Math.max(0, air - doubt / 2 - now.hours % 2);
                 case CART: return air / 2;
                 default: return air;
             }
