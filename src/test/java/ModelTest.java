@@ -52,26 +52,32 @@ public final class ModelTest {
         s.append(blank()).append('n').append(places).append(';');
         boolean[][] joined = new boolean[places][places];
         int quick = 1 + random.nextInt(40);
-        for (int i = random.nextInt(10); i > 0; i--) {
+        int wanted = full() ? 9 : random.nextInt(10);
+        for (int tries = 0; tries < 50 && wanted > 0; tries++) {
             int a = random.nextInt(places);
             int b = random.nextInt(places);
             if (a != b && !joined[a][b]) {
+                wanted--;
                 joined[a][b] = true;
                 joined[b][a] = true;
                 s.append(blank()).append('b').append(a).append(' ').append(b).append(' ');
                 s.append(2 + random.nextInt(39)).append(' ').append(jams()).append(';');
             }
         }
-        for (int i = random.nextInt(10); i > 0; i--) {
+        for (int i = full() ? 9 : random.nextInt(10); i > 0; i--) {
             s.append('k').append(blank()).append(random.nextInt(4)).append(' ').append(1 + random.nextInt(quick)).append(';');
         }
-        for (int i = random.nextInt(7); i > 0; i--) {
+        for (int i = full() ? 6 : random.nextInt(7); i > 0; i--) {
             s.append('j').append(random.nextInt(4)).append(' ').append(random.nextInt(places)).append(blank()).append(';');
         }
         if (random.nextInt(4) == 0) {
             spoil(s);
         }
         return s.toString();
+    }
+
+    private boolean full() {
+        return random.nextInt(3) == 0;
     }
 
     private int jams() {

@@ -10,6 +10,7 @@ public final class TownTest {
         promise3Town();
         promise3KeepsAllElseWithAFault();
         promise3EmptyText();
+        promise3AnewOnOneObject();
         promise4Faults();
         promise4MoreFaults();
         promise5Told();
@@ -128,6 +129,30 @@ public final class TownTest {
             CHECK.due("no town: hour(1)", x.hour(1), Check.NOT);
             CHECK.due("no town: goBack(0)", x.goBack(0), Check.NOT);
         }
+    }
+
+    private static void promise3AnewOnOneObject() {
+        LateBridges x = Check.of("n2;b0 1 2 0;k0 40;j0 0;");
+        x.leap(0, 0);
+        x.talk(0, 9);
+        again(x, "n2;b0 1 2 0;k0 40;j0 0;x", -11, 23);
+        CHECK.due("doubt behind a fault", x.jumper(0, 2), 9);
+        again(x, "n2", -11, 2);
+        again(x, "n2   ", -11, 5);
+        again(x, "n2", -11, 2);
+        again(x, "n222", -12, 1);
+        again(x, "n2 ;b0 1 2 0;k0 40;j0 0;", 1, Check.NONE);
+        CHECK.due("doubt in a new town", x.jumper(0, 2), 0);
+        CHECK.due("dried in a new town", x.jumper(0, 4), 0);
+        again(x, "n3;", 0, Check.NONE);
+        CHECK.due("no bridges", x.told(1), 0);
+        CHECK.due("no jumpers", x.jumper(0, 0), Check.UNKNOWN);
+    }
+
+    private static void again(LateBridges x, String text, int answer, int at) {
+        Check.feed(x, text);
+        CHECK.due("anew: town() of '" + text + "'", x.town(), answer);
+        CHECK.due("anew: fault() of '" + text + "'", x.fault(), at);
     }
 
     private static void fault(String text, int number, int at) {
