@@ -182,13 +182,10 @@ public final class DoneTest {
         y.seed(5);
         y.drift(1);
         y.drift(1);
+        x.keep(0);
+        y.keep(0);
         y.seed(5);
-        x.undo();
-        y.undo();
-        y.undo();
-        x.drift(2);
-        y.drift(2);
-        CHECK.holds("by the same draws all is the same", Check.all(x).equals(Check.all(y)));
+        CHECK.holds("an hour at a time all is the same", Check.all(x).equals(Check.all(y)));
         LateBridges empty = Check.of("n2;k0 1;j0 0;");
         empty.seed(9);
         CHECK.due("drift(3) without bridges", empty.drift(3), 3);
@@ -250,9 +247,7 @@ public final class DoneTest {
     private static void promise18Undo() {
         LateBridges x = Check.of(TOWN);
         CHECK.refused("undo() of nothing", x, LateBridges::undo, Check.NOT);
-        String[] before = new String[20];
         for (int i = 0; i < 20; i++) {
-            before[i] = Check.all(x);
             x.talk(0, i + 1);
             CHECK.due("can be undone", x.told(14), Math.min(16, i + 1));
         }
