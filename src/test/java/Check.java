@@ -1,21 +1,38 @@
 /** Counts the answers that are not due, prints them, and ends the test with exit code 1 if there was one. */
 final class Check {
-    static final int NONE = LateBridges.NONE, UNKNOWN = LateBridges.UNKNOWN, OUTSIDE = LateBridges.OUTSIDE;
-    static final int NOT = LateBridges.NOT, FULL = LateBridges.FULL;
+    static final int NONE = -1, UNKNOWN = -1000000001, OUTSIDE = -1000000002, NOT = -1000000003, FULL = -1000000004;
 
     private final String name;
+    private String sentence = "";
+    private int sentences;
     private int asked;
+    private int askedAhead;
     private int wrong;
 
     Check(String name) {
         this.name = name;
     }
 
+    /** What follows is the test of this sentence of the document. */
+    void about(String ofTheDocument) {
+        endSentence();
+        sentence = " [" + ofTheDocument + "]";
+        sentences++;
+    }
+
+    private void endSentence() {
+        if (sentences > 0 && asked == askedAhead) {
+            wrong++;
+            System.out.println(name + sentence + ": nothing was asked");
+        }
+        askedAhead = asked;
+    }
+
     void due(String call, long got, long want) {
         asked++;
         if (got != want) {
             wrong++;
-            System.out.println(name + ": " + call + " answered " + got + ", due is " + want);
+            System.out.println(name + sentence + ": " + call + " answered " + got + ", due is " + want);
         }
     }
 
@@ -23,7 +40,7 @@ final class Check {
         asked++;
         if (!so) {
             wrong++;
-            System.out.println(name + ": " + what);
+            System.out.println(name + sentence + ": " + what);
         }
     }
 
@@ -32,61 +49,31 @@ final class Check {
     }
 
     void end() {
-        System.out.println(name + ": " + asked + " answers, " + wrong + " wrong");
+        endSentence();
+        String of = sentences > 0 ? sentences + " sentences, " : "";
+        System.out.println(name + ": " + of + asked + " answers, " + wrong + " wrong");
         if (wrong != 0 || asked == 0) {
             System.exit(1);
         }
     }
 
-    static void feed(LateBridges x, String text) {
-        for (int i = 0; i < text.length(); i++) {
-            x.feed(text.charAt(i));
-        }
-    }
-
     /** A new object with the town of a text. */
-    static LateBridges of(String text) {
-        LateBridges x = new LateBridges();
-        feed(x, text);
+    static Play of(String text) {
+        Play x = new Play().tell(text);
         if (x.town() < 0) {
             throw new IllegalStateException("a test's text has a fault at " + x.fault() + ": " + text);
         }
         return x;
     }
 
-    /** All that can be asked without changing anything, in one line: to see that a refused call changes nothing. */
-    static String all(LateBridges x) {
-        StringBuilder s = new StringBuilder();
-        for (int what = 0; what <= 14; what++) {
-            s.append(' ').append(x.told(what));
-        }
-        for (int n = 0; n < 9; n++) {
-            s.append(" |");
-            for (int what = 0; what <= 5; what++) {
-                s.append(' ').append(x.bridge(n, what)).append(' ').append(x.keeper(n, what));
-                s.append(' ').append(x.jumper(n, what));
-            }
-        }
-        for (int i = 0; i < 20; i++) {
-            for (int what = 0; what < 4; what++) {
-                s.append(' ').append(x.roll(i, what));
-            }
-        }
-        s.append(" | ").append(x.quick(0)).append(' ').append(x.quick(1)).append(' ').append(x.quick(2));
-        s.append(' ').append(x.judge());
-        int seed = x.seed(0);
-        x.seed(seed);
-        return s.append(' ').append(seed).toString();
-    }
-
     interface Call {
-        int on(LateBridges x);
+        int on(Play x);
     }
 
     /** A refusal: the answer is due, and nothing has changed. */
-    void refused(String call, LateBridges x, Call made, int want) {
-        String before = all(x);
+    void refused(String call, Play x, Call made, int want) {
+        String before = Picture.of(x);
         due(call, made.on(x), want);
-        holds(call + " is refused but changes what is so", before.equals(all(x)));
+        holds(call + " changes something", before.equals(Picture.of(x)));
     }
 }

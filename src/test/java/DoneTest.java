@@ -22,7 +22,7 @@ public final class DoneTest {
     }
 
     private static void promise11Leap() {
-        LateBridges x = Check.of(TOWN);
+        Play x = Check.of(TOWN);
         CHECK.due("leap(0, 0)", x.leap(0, 0), 1);
         CHECK.due("beyond", x.jumper(0, 1), 1);
         CHECK.due("over", x.jumper(0, 3), 1);
@@ -50,7 +50,7 @@ public final class DoneTest {
     }
 
     private static void promise11LeapBounds() {
-        LateBridges x = Check.of("n2;b0 1 2 0;k2 40;j0 0;j0 1;");
+        Play x = Check.of("n2;b0 1 2 0;k2 40;j0 0;j0 1;");
         x.talk(0, 28);
         x.leap(0, 0);
         CHECK.due("doubt", x.jumper(0, 2), 30);
@@ -66,13 +66,13 @@ public final class DoneTest {
         x.leap(0, 0);
         CHECK.due("tired is 99 at most", x.keeper(0, 3), 99);
         CHECK.due("time of an old one", x.keeper(0, 4), 139);
-        LateBridges y = Check.of("n2;b0 1 2 0;k0 1;j0 0;");
+        Play y = Check.of("n2;b0 1 2 0;k0 1;j0 0;");
         y.leap(0, 0);
         CHECK.due("doubt is 0 at least", y.jumper(0, 2), 0);
     }
 
     private static void promise12Post() {
-        LateBridges x = Check.of(TOWN);
+        Play x = Check.of(TOWN);
         CHECK.refused("post(0, 0): he is there", x, y -> y.post(0, 0), Check.NOT);
         CHECK.refused("post(0, 1): another is there", x, y -> y.post(0, 1), Check.NOT);
         CHECK.due("post(0, 4)", x.post(0, 4), 0);
@@ -90,7 +90,7 @@ public final class DoneTest {
     }
 
     private static void promise13Rest() {
-        LateBridges x = Check.of(TOWN);
+        Play x = Check.of(TOWN);
         CHECK.due("rest(2)", x.rest(2), 2);
         CHECK.due("he is at none", x.keeper(2, 2), Check.NONE);
         CHECK.due("nobody is there", x.bridge(2, 4), Check.NONE);
@@ -100,7 +100,7 @@ public final class DoneTest {
     }
 
     private static void promise14Train() {
-        LateBridges x = Check.of("n2;b0 1 2 0;k2 3;j0 0;");
+        Play x = Check.of("n2;b0 1 2 0;k2 3;j0 0;");
         x.leap(0, 0);
         CHECK.due("train(0)", x.train(0), 2);
         CHECK.due("need", x.keeper(0, 1), 2);
@@ -112,7 +112,7 @@ public final class DoneTest {
     }
 
     private static void promise15Talk() {
-        LateBridges x = Check.of(TOWN);
+        Play x = Check.of(TOWN);
         CHECK.due("talk(0, 30)", x.talk(0, 30), 0);
         CHECK.due("talk(0, 0)", x.talk(0, 0), 30);
         CHECK.due("talk(0, 7)", x.talk(0, 7), 0);
@@ -126,7 +126,7 @@ public final class DoneTest {
     }
 
     private static void promise16Hour() {
-        LateBridges x = Check.of(TOWN);
+        Play x = Check.of(TOWN);
         for (int i = 0; i < 6; i++) {
             x.leap(0, 0);
             x.leap(1, 3);
@@ -150,7 +150,7 @@ public final class DoneTest {
     }
 
     private static void promise16HourBounds() {
-        LateBridges x = Check.of("n2;");
+        Play x = Check.of("n2;");
         CHECK.refused("hour(0)", x, y -> y.hour(0), Check.OUTSIDE);
         CHECK.refused("hour(61)", x, y -> y.hour(61), Check.OUTSIDE);
         CHECK.refused("hour(-1)", x, y -> y.hour(-1), Check.OUTSIDE);
@@ -163,14 +163,14 @@ public final class DoneTest {
         CHECK.refused("hour(61) at 9001", x, y -> y.hour(61), Check.OUTSIDE);
         x.undo();
         CHECK.due("hour(60) at 9000", x.hour(60), 9060);
-        LateBridges none = new LateBridges();
+        Play none = new Play();
         CHECK.refused("no town: hour(1)", none, y -> y.hour(1), Check.NOT);
         CHECK.refused("no town: hour(0)", none, y -> y.hour(0), Check.OUTSIDE);
     }
 
     /** Draws by hand: the seeds from 5 on, three to an hour. */
     private static void promise17Drift() {
-        LateBridges x = Check.of(TOWN);
+        Play x = Check.of(TOWN);
         x.seed(5);
         CHECK.due("drift(2)", x.drift(2), 2);
         long seed = 5;
@@ -178,19 +178,16 @@ public final class DoneTest {
             seed = Math.floorMod(seed * 1103515245L + 12345L, 2147483648L);
         }
         CHECK.due("three draws an hour", x.seed(5), seed);
-        LateBridges y = Check.of(TOWN);
+        Play y = Check.of(TOWN);
         y.seed(5);
         y.drift(1);
         y.drift(1);
-        x.keep(0);
-        y.keep(0);
-        y.seed(5);
-        CHECK.holds("an hour at a time all is the same", Check.all(x).equals(Check.all(y)));
-        LateBridges empty = Check.of("n2;k0 1;j0 0;");
+        CHECK.holds("an hour at a time all is the same", Picture.ofSection2(x).equals(Picture.ofSection2(y)));
+        Play empty = Check.of("n2;k0 1;j0 0;");
         empty.seed(9);
         CHECK.due("drift(3) without bridges", empty.drift(3), 3);
         CHECK.due("no draws", empty.seed(0), 9);
-        LateBridges nobody = Check.of("n2;b0 1 2 0;k0 1;");
+        Play nobody = Check.of("n2;b0 1 2 0;k0 1;");
         nobody.seed(9);
         CHECK.due("drift(3) without jumpers", nobody.drift(3), 3);
         CHECK.due("no draws", nobody.seed(0), 9);
@@ -199,7 +196,7 @@ public final class DoneTest {
     /** One jumper, one bridge: each hour there is a leap, jammed if the third draw is less than Q. */
     private static void promise17DriftJams() {
         for (int q = 0; q <= 99; q += 33) {
-            LateBridges x = Check.of("n2;b0 1 9 " + q + ";k2 1;j3 0;");
+            Play x = Check.of("n2;b0 1 9 " + q + ";k2 1;j3 0;");
             long seed = 31;
             x.seed(31);
             int place = 0;
@@ -235,18 +232,18 @@ public final class DoneTest {
     }
 
     private static void promise17DriftBounds() {
-        LateBridges x = Check.of(TOWN);
+        Play x = Check.of(TOWN);
         CHECK.refused("drift(0)", x, y -> y.drift(0), Check.OUTSIDE);
         CHECK.refused("drift(61)", x, y -> y.drift(61), Check.OUTSIDE);
         CHECK.due("drift(60)", x.drift(60), 60);
-        LateBridges none = new LateBridges();
+        Play none = new Play();
         CHECK.refused("no town: drift(1)", none, y -> y.drift(1), Check.NOT);
         CHECK.refused("no town: drift(61)", none, y -> y.drift(61), Check.OUTSIDE);
     }
 
     private static void promise18Undo() {
-        LateBridges x = Check.of(TOWN);
-        CHECK.refused("undo() of nothing", x, LateBridges::undo, Check.NOT);
+        Play x = Check.of(TOWN);
+        CHECK.refused("undo() of nothing", x, Play::undo, Check.NOT);
         for (int i = 0; i < 20; i++) {
             x.talk(0, i + 1);
             CHECK.due("can be undone", x.told(14), Math.min(16, i + 1));
@@ -255,7 +252,7 @@ public final class DoneTest {
             CHECK.due("undo()", x.undo(), i - 4);
             CHECK.due("doubt", x.jumper(0, 2), i);
         }
-        CHECK.refused("the oldest are lost", x, LateBridges::undo, Check.NOT);
+        CHECK.refused("the oldest are lost", x, Play::undo, Check.NOT);
         x.talk(0, 29);
         x.leap(0, 9);
         CHECK.due("a refused call is not undone", x.undo(), 0);
@@ -263,7 +260,7 @@ public final class DoneTest {
     }
 
     private static void promise18UndoEachCall() {
-        LateBridges x = Check.of(TOWN);
+        Play x = Check.of(TOWN);
         x.leap(1, 0);
         x.leap(3, 4);
         x.keep(0);
@@ -276,7 +273,7 @@ public final class DoneTest {
         undone("train()", x, y -> y.train(1));
         undone("talk()", x, y -> y.talk(1, 12));
         undone("hour()", x, y -> y.hour(5));
-        String before = Check.all(x);
+        String before = Picture.of(x);
         x.seed(5);
         x.drift(60);
         x.see(9, true);
@@ -288,14 +285,14 @@ public final class DoneTest {
         x.tear();
         x.see(4, true);
         x.write(0, 1);
-        CHECK.holds("drift() is undone", Check.all(x).equals(before));
+        CHECK.holds("drift() is undone", Picture.of(x).equals(before));
     }
 
-    private static void undone(String call, LateBridges x, Check.Call made) {
-        String before = Check.all(x);
+    private static void undone(String call, Play x, Check.Call made) {
+        String before = Picture.of(x);
         CHECK.holds(call + " is done", made.on(x) >= Check.NONE);
-        CHECK.holds(call + " changes something", !Check.all(x).equals(before));
+        CHECK.holds(call + " changes something", !Picture.of(x).equals(before));
         CHECK.due("undo() of " + call, x.undo(), 0);
-        CHECK.holds(call + " is undone", Check.all(x).equals(before));
+        CHECK.holds(call + " is undone", Picture.of(x).equals(before));
     }
 }

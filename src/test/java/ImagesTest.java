@@ -13,14 +13,14 @@ public final class ImagesTest {
     }
 
     private static void promise32Seed() {
-        LateBridges x = new LateBridges();
+        Play x = new Play();
         CHECK.due("seed(2147483647)", x.seed(2147483647), 0);
         CHECK.due("seed(0)", x.seed(0), 2147483647);
         CHECK.due("seed(7)", x.seed(7), 0);
         CHECK.refused("seed(-1)", x, y -> y.seed(-1), Check.OUTSIDE);
         CHECK.refused("seed(-2147483648)", x, y -> y.seed(-2147483648), Check.OUTSIDE);
         CHECK.due("seed(0)", x.seed(0), 7);
-        LateBridges drifting = Check.of(TOWN);
+        Play drifting = Check.of(TOWN);
         drifting.seed(2147483647);
         drifting.drift(1);
         long seed = 2147483647;
@@ -31,7 +31,7 @@ public final class ImagesTest {
     }
 
     private static void promise33Keep() {
-        LateBridges x = Check.of(TOWN);
+        Play x = Check.of(TOWN);
         x.leap(0, 0);
         x.hour(1);
         CHECK.refused("keep(-1)", x, y -> y.keep(-1), Check.UNKNOWN);
@@ -41,11 +41,11 @@ public final class ImagesTest {
         CHECK.due("undo()", x.undo(), Check.NOT);
         x.leap(0, 0);
         CHECK.due("keep(0) again", x.keep(0), 1);
-        String kept = Check.all(x);
+        String kept = Picture.of(x);
         x.drift(60);
         x.goBack(0);
-        CHECK.holds("the later image counts", Check.all(x).equals(kept));
-        LateBridges none = new LateBridges();
+        CHECK.holds("the later image counts", Picture.of(x).equals(kept));
+        Play none = new Play();
         none.seed(4);
         CHECK.due("keep(1) without a town", none.keep(1), 1);
         none.seed(5);
@@ -54,7 +54,7 @@ public final class ImagesTest {
     }
 
     private static void promise34GoBack() {
-        LateBridges x = Check.of(TOWN);
+        Play x = Check.of(TOWN);
         CHECK.refused("goBack(-1)", x, y -> y.goBack(-1), Check.UNKNOWN);
         CHECK.refused("goBack(2)", x, y -> y.goBack(2), Check.UNKNOWN);
         CHECK.refused("goBack(0): not kept", x, y -> y.goBack(0), Check.NOT);
@@ -65,7 +65,7 @@ public final class ImagesTest {
         x.post(2, 4);
         x.talk(3, 21);
         x.keep(0);
-        String kept = Check.all(x);
+        String kept = Picture.of(x);
         CHECK.refused("goBack(1): not kept", x, y -> y.goBack(1), Check.NOT);
         x.drift(60);
         x.train(1);
@@ -74,11 +74,11 @@ public final class ImagesTest {
         x.talk(3, 2);
         x.leap(0, 0);
         CHECK.due("goBack(0)", x.goBack(0), 1);
-        CHECK.holds("all is as it was kept, the seed too", Check.all(x).equals(kept));
+        CHECK.holds("all is as it was kept, the seed too", Picture.of(x).equals(kept));
         CHECK.due("nothing can be undone", x.undo(), Check.NOT);
         x.drift(20);
         CHECK.due("goBack(0) once more", x.goBack(0), 1);
-        CHECK.holds("the image does not change", Check.all(x).equals(kept));
+        CHECK.holds("the image does not change", Picture.of(x).equals(kept));
         x.see(3, true);
         x.write(0, 0);
         x.goBack(0);
@@ -87,19 +87,22 @@ public final class ImagesTest {
     }
 
     private static void promise34TwoImages() {
-        LateBridges x = Check.of(TOWN);
-        String first = Check.all(x);
+        Play x = Check.of(TOWN);
+        String first = Picture.ofSection2(x);
         x.keep(0);
         x.seed(3);
         x.drift(30);
+        int seed = x.like().seed(0);
         x.keep(1);
-        String second = Check.all(x);
+        String second = Picture.ofSection2(x);
         x.drift(30);
         x.goBack(0);
-        CHECK.holds("the first image", Check.all(x).equals(first));
+        CHECK.holds("the first image", Picture.ofSection2(x).equals(first));
+        CHECK.due("the first seed", x.like().seed(0), 0);
         x.goBack(1);
-        CHECK.holds("the second image", Check.all(x).equals(second));
-        Check.feed(x, TOWN);
+        CHECK.holds("the second image", Picture.ofSection2(x).equals(second));
+        CHECK.due("the second seed", x.like().seed(0), seed);
+        x.tell(TOWN);
         x.town();
         CHECK.due("a new town: goBack(0)", x.goBack(0), Check.NOT);
         CHECK.due("a new town: goBack(1)", x.goBack(1), Check.NOT);

@@ -13,7 +13,7 @@ public final class SeenTest {
     }
 
     private static void promise26See() {
-        LateBridges x = new LateBridges();
+        Play x = new Play();
         CHECK.refused("see(-1, true)", x, y -> y.see(-1, true), Check.OUTSIDE);
         CHECK.refused("see(41, false)", x, y -> y.see(41, false), Check.OUTSIDE);
         for (int i = 1; i <= 6; i++) {
@@ -24,14 +24,14 @@ public final class SeenTest {
         CHECK.refused("a seventh out of bounds", x, y -> y.see(41, true), Check.OUTSIDE);
     }
 
-    private static void quick(LateBridges x, int howMany, int least, int greatest) {
+    private static void quick(Play x, int howMany, int least, int greatest) {
         CHECK.due("quick(0)", x.quick(0), howMany);
         CHECK.due("quick(1)", x.quick(1), least);
         CHECK.due("quick(2)", x.quick(2), greatest);
     }
 
     private static void promise27Quick() {
-        LateBridges x = new LateBridges();
+        Play x = new Play();
         quick(x, 40, 1, 40);
         x.see(30, true);
         quick(x, 30, 1, 30);
@@ -44,7 +44,7 @@ public final class SeenTest {
         quick(x, 1, 11, 11);
         x.see(11, false);
         quick(x, 0, Check.NONE, Check.NONE);
-        LateBridges y = new LateBridges();
+        Play y = new Play();
         y.see(0, true);
         quick(y, 0, Check.NONE, Check.NONE);
         y.tear();
@@ -67,7 +67,7 @@ public final class SeenTest {
     private static void promise28Watch() {
         for (int least = 1; least <= 40; least++) {
             for (int greatest = 0; greatest <= 40; greatest++) {
-                LateBridges x = new LateBridges();
+                Play x = new Play();
                 x.see(least - 1, false);
                 x.see(greatest, true);
                 int best = Check.NONE;
@@ -91,7 +91,7 @@ public final class SeenTest {
     }
 
     private static void promise29Write() {
-        LateBridges x = Check.of("n3;b0 1 2 0;k0 1;j0 0;j0 2;");
+        Play x = Check.of("n3;b0 1 2 0;k0 1;j0 0;j0 2;");
         CHECK.refused("write(2, 0)", x, y -> y.write(2, 0), Check.UNKNOWN);
         CHECK.refused("write(-1, 0)", x, y -> y.write(-1, 0), Check.UNKNOWN);
         CHECK.refused("write(0, 3)", x, y -> y.write(0, 3), Check.UNKNOWN);
@@ -102,11 +102,11 @@ public final class SeenTest {
         }
         CHECK.refused("a sixteenth", x, y -> y.write(0, 0), Check.FULL);
         CHECK.refused("a sixteenth of nobody", x, y -> y.write(2, 0), Check.UNKNOWN);
-        CHECK.refused("no town", new LateBridges(), y -> y.write(0, 0), Check.UNKNOWN);
+        CHECK.refused("no town", new Play(), y -> y.write(0, 0), Check.UNKNOWN);
     }
 
     private static void promise30Tear() {
-        LateBridges x = Check.of("n3;j0 0;");
+        Play x = Check.of("n3;j0 0;");
         CHECK.due("tear() of nothing", x.tear(), 0);
         x.see(1, true);
         x.see(2, true);
@@ -121,7 +121,7 @@ public final class SeenTest {
     }
 
     private static void promise31Judge() {
-        LateBridges x = Check.of("n3;b0 1 2 0;b1 2 2 0;k0 1;k0 1;j0 0;j0 2;");
+        Play x = Check.of("n3;b0 1 2 0;b1 2 2 0;k0 1;k0 1;j0 0;j0 2;");
         CHECK.due("judge() of an empty book", x.judge(), Check.NONE);
         x.write(0, 0);
         x.write(1, 2);

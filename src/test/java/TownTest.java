@@ -24,7 +24,7 @@ public final class TownTest {
     }
 
     private static void promise1NewObject() {
-        LateBridges x = new LateBridges();
+        Play x = new Play();
         for (int what = 0; what <= 14; what++) {
             CHECK.due("new: told(" + what + ")", x.told(what), what == 10 ? Check.NONE : 0);
         }
@@ -46,7 +46,7 @@ public final class TownTest {
     }
 
     private static void promise2Feed() {
-        LateBridges x = new LateBridges();
+        Play x = new Play();
         CHECK.refused("feed(-1)", x, y -> y.feed(-1), Check.OUTSIDE);
         CHECK.refused("feed(256)", x, y -> y.feed(256), Check.OUTSIDE);
         CHECK.due("feed(0)", x.feed(0), 1);
@@ -61,7 +61,7 @@ public final class TownTest {
     }
 
     private static void promise3Town() {
-        LateBridges x = Check.of(TOWN);
+        Play x = Check.of(TOWN);
         x.hour(3);
         x.leap(0, 0);
         x.leap(3, 4);
@@ -71,7 +71,7 @@ public final class TownTest {
         x.keep(0);
         x.rest(2);
         x.seed(77);
-        Check.feed(x, "n3;b0 1 9 8;k0 1;k1 2;j2 1;");
+        x.tell("n3;b0 1 9 8;k0 1;k1 2;j2 1;");
         CHECK.due("town() anew", x.town(), 1);
         CHECK.due("text is empty", x.told(4), 0);
         CHECK.due("places", x.told(0), 3);
@@ -96,17 +96,18 @@ public final class TownTest {
     }
 
     private static void promise3KeepsAllElseWithAFault() {
-        LateBridges x = Check.of(TOWN);
+        Play x = Check.of(TOWN);
         x.keep(1);
         x.leap(0, 0);
         x.hour(1);
         x.see(7, true);
         x.write(0, 0);
-        String before = Check.all(x);
-        Check.feed(x, "n3;b0 1 9 8");
+        String before = Picture.withoutText(x);
+        x.tell("n3;b0 1 9 8");
         CHECK.due("town() with a fault", x.town(), -11);
         CHECK.due("fault()", x.fault(), 11);
-        CHECK.holds("with a fault all else is as it was, the text empty", Check.all(x).equals(before));
+        CHECK.due("the text is empty", x.told(4), 0);
+        CHECK.holds("with a fault all else is as it was", Picture.withoutText(x).equals(before));
         CHECK.due("undo() behind a fault", x.undo(), 1);
         CHECK.due("goBack(1) behind a fault", x.goBack(1), 1);
         x.town();
@@ -115,12 +116,12 @@ public final class TownTest {
 
     private static void promise3EmptyText() {
         for (String text : new String[] {"", "     "}) {
-            LateBridges x = Check.of(TOWN);
+            Play x = Check.of(TOWN);
             x.leap(0, 0);
             x.keep(0);
             x.see(3, true);
             x.write(0, 1);
-            Check.feed(x, text);
+            x.tell(text);
             CHECK.due("town() of '" + text + "'", x.town(), 0);
             CHECK.due("fault()", x.fault(), Check.NONE);
             for (int what = 0; what <= 14; what++) {
@@ -132,7 +133,7 @@ public final class TownTest {
     }
 
     private static void promise3AnewOnOneObject() {
-        LateBridges x = Check.of("n2;b0 1 2 0;k0 40;j0 0;");
+        Play x = Check.of("n2;b0 1 2 0;k0 40;j0 0;");
         x.leap(0, 0);
         x.talk(0, 9);
         again(x, "n2;b0 1 2 0;k0 40;j0 0;x", -11, 23);
@@ -149,23 +150,23 @@ public final class TownTest {
         CHECK.due("no jumpers", x.jumper(0, 0), Check.UNKNOWN);
     }
 
-    private static void again(LateBridges x, String text, int answer, int at) {
-        Check.feed(x, text);
+    private static void again(Play x, String text, int answer, int at) {
+        x.tell(text);
         CHECK.due("anew: town() of '" + text + "'", x.town(), answer);
         CHECK.due("anew: fault() of '" + text + "'", x.fault(), at);
     }
 
     private static void fault(String text, int number, int at) {
-        LateBridges x = new LateBridges();
-        Check.feed(x, text);
+        Play x = new Play();
+        x.tell(text);
         CHECK.due("town() of '" + text + "'", x.town(), -10 - number);
         CHECK.due("fault() of '" + text + "'", x.fault(), at);
         CHECK.due("letters behind '" + text + "'", x.told(4), 0);
     }
 
     private static void good(String text, int bridges) {
-        LateBridges x = new LateBridges();
-        Check.feed(x, text);
+        Play x = new Play();
+        x.tell(text);
         CHECK.due("town() of '" + text + "'", x.town(), bridges);
         CHECK.due("fault() of '" + text + "'", x.fault(), Check.NONE);
     }
@@ -246,10 +247,10 @@ public final class TownTest {
     }
 
     private static void promise5Told() {
-        LateBridges x = Check.of(TOWN);
+        Play x = Check.of(TOWN);
         CHECK.refused("told(-1)", x, y -> y.told(-1), Check.OUTSIDE);
         CHECK.refused("told(15)", x, y -> y.told(15), Check.OUTSIDE);
-        Check.feed(x, "n2");
+        x.tell("n2");
         int[] first = {5, 5, 4, 4, 2, 0, 4, 16, 3, 0, 0, 0, 0, 0, 0};
         for (int what = 0; what < first.length; what++) {
             CHECK.due("told(" + what + ")", x.told(what), first[what]);
@@ -281,7 +282,7 @@ public final class TownTest {
         CHECK.due("far of a line", Check.of("n4;b0 1 2 0;b1 2 2 0;b2 3 2 0;").told(8), 3);
         CHECK.due("bottles of a ring", Check.of("n4;b0 1 2 0;b1 2 2 0;b2 3 2 0;b3 0 2 0;").told(7), 0);
         CHECK.due("far of a ring", Check.of("n4;b0 1 2 0;b1 2 2 0;b2 3 2 0;b3 0 2 0;").told(8), 2);
-        LateBridges parts = Check.of("n8;b0 1 2 0;b2 3 2 0;b3 4 2 0;b2 4 2 0;b4 5 2 0;");
+        Play parts = Check.of("n8;b0 1 2 0;b2 3 2 0;b3 4 2 0;b2 4 2 0;b4 5 2 0;");
         CHECK.due("bottles of a town in parts", parts.told(7), 17);
         CHECK.due("far of a town in parts", parts.told(8), 2);
         CHECK.due("far without bridges", Check.of("n8;").told(8), 0);
@@ -290,7 +291,7 @@ public final class TownTest {
     }
 
     private static void promise6Bridge() {
-        LateBridges x = Check.of("n3;b2 1 10 5;b1 0 6 99;k2 9;");
+        Play x = Check.of("n3;b2 1 10 5;b1 0 6 99;k2 9;");
         int[][] due = {{2, 1, 10, 5, 0, 9}, {1, 0, 6, 99, Check.NONE, Check.NONE}};
         for (int b = 0; b < 2; b++) {
             for (int what = 0; what < 6; what++) {
@@ -310,7 +311,7 @@ public final class TownTest {
     }
 
     private static void promise7Keeper() {
-        LateBridges x = Check.of("n5;b0 1 2 0;b0 2 2 0;b0 3 2 0;b0 4 2 0;k0 10;k1 11;k2 12;k3 13;k0 14;j0 0;");
+        Play x = Check.of("n5;b0 1 2 0;b0 2 2 0;b0 3 2 0;b0 4 2 0;k0 10;k1 11;k2 12;k3 13;k0 14;j0 0;");
         for (int k = 0; k < 5; k++) {
             CHECK.due("kind of " + k, x.keeper(k, 0), k % 4);
             CHECK.due("need of " + k, x.keeper(k, 1), 10 + k);
@@ -342,7 +343,7 @@ public final class TownTest {
     }
 
     private static void promise8Jumper() {
-        LateBridges x = Check.of(TOWN);
+        Play x = Check.of(TOWN);
         for (int j = 0; j < 4; j++) {
             CHECK.due("kind", x.jumper(j, 0), j);
             CHECK.due("place", x.jumper(j, 1), new int[] {0, 0, 2, 3}[j]);
@@ -367,7 +368,7 @@ public final class TownTest {
     }
 
     private static void promise9Flight() {
-        LateBridges x = Check.of("n3;b0 1 13 0;b0 2 2 0;j0 0;j1 0;j2 0;j3 0;");
+        Play x = Check.of("n3;b0 1 13 0;b0 2 2 0;j0 0;j1 0;j2 0;j3 0;");
         int[][] calm = {{13, 2}, {13, 2}, {13, 2}, {6, 1}};
         int[][] doubting = {{13, 2}, {8, 0}, {11, 0}, {6, 1}};
         int[][] oddHour = {{13, 2}, {9, 0}, {10, 0}, {6, 1}};
@@ -388,7 +389,7 @@ public final class TownTest {
         CHECK.refused("flight(0, -1)", x, y -> y.flight(0, -1), Check.UNKNOWN);
     }
 
-    private static void flights(LateBridges x, String when, int[][] due) {
+    private static void flights(Play x, String when, int[][] due) {
         for (int j = 0; j < 4; j++) {
             for (int b = 0; b < 2; b++) {
                 CHECK.due(when + ": flight(" + j + ", " + b + ")", x.flight(j, b), due[j][b]);
@@ -397,17 +398,15 @@ public final class TownTest {
     }
 
     private static void promise10Roll() {
-        LateBridges x = Check.of("n8;b0 1 2 0;b0 2 2 0;b0 3 2 0;b0 4 2 0;b0 5 2 0;b0 6 2 0;b0 7 2 0;b6 1 2 0;b6 2 2 0;"
+        Play x = Check.of("n8;b0 1 2 0;b0 2 2 0;b0 3 2 0;b0 4 2 0;b0 5 2 0;b0 6 2 0;b0 7 2 0;b6 1 2 0;b6 2 2 0;"
             + "k0 1;k0 40;k0 40;k0 40;k0 40;k0 40;k0 40;k0 1;j0 0;j0 0;j0 0;j0 0;j0 0;j0 0;");
         int leaps = 0;
         for (int i = 0; i < 25; i++) {
             int j = i % 6;
             int b = i % 5 == 0 ? 0 : 1 + i % 6;
             x.talk(j, 0);
-            if (i == 12) {
-                while (x.told(5) < 9060) {
-                    x.hour(60);
-                }
+            for (int hours = 0; i == 12 && hours < 9060; hours += 60) {
+                x.hour(60);
             }
             int got = x.leap(j, b);
             CHECK.holds("a leap of a calm one is made or not now", got == 0 || got == 1 || got == Check.NOT);
@@ -421,7 +420,7 @@ public final class TownTest {
             CHECK.due("roll(0, 2)", x.roll(0, 2), b);
             CHECK.due("roll(0, 3)", x.roll(0, 3), got);
         }
-        LateBridges y = Check.of("n2;b0 1 2 0;k0 1;j0 0;j3 0;");
+        Play y = Check.of("n2;b0 1 2 0;k0 1;j0 0;j3 0;");
         for (int i = 0; i < 22; i++) {
             y.leap(i % 2, 0);
         }
