@@ -166,6 +166,7 @@ public final class BoundsOfCallsTest {
         unknown("train", BIGGEST, Play::train, 9);
         unknown("train", SMALLEST, Play::train, 1);
         CHECK.about("14: NOT: it is 1");
+        CHECK.refused("train(3) at 1", Towns.lived().tell("n2;"), y -> y.train(3), NOT);
         Play x = Check.of("n2;k0 2;k0 1;k0 3;");
         CHECK.due("train(0) at 2", x.train(0), 1);
         CHECK.refused("train(0) at 1", x, y -> y.train(0), NOT);
@@ -198,7 +199,7 @@ public final class BoundsOfCallsTest {
             CHECK.due("drift(" + n + ")", BIGGEST.like().drift(n), 4 + n);
         }
         CHECK.about("16, 17: NOT: no TOWN");
-        for (Play x : new Play[] {new Play(), new Play().tell("n2;"), emptied(), faulty("x")}) {
+        for (Play x : new Play[] {new Play().tell("n2;"), emptied(), Towns.none(0), Towns.none(1)}) {
             CHECK.refused("hour(1)", x.like(), y -> y.hour(1), NOT);
             CHECK.refused("hour(60)", x.like(), y -> y.hour(60), NOT);
             CHECK.refused("drift(1)", x.like(), y -> y.drift(1), NOT);
@@ -216,16 +217,10 @@ public final class BoundsOfCallsTest {
         return x;
     }
 
-    private static Play faulty(String text) {
-        Play x = new Play().tell(text);
-        x.town();
-        return x;
-    }
-
     private static void hoursFull() {
         CHECK.about("16, 17: FULL: HOURS are above 9000");
         for (int last = 1; last <= 60; last++) {
-            Play x = Check.of("n2;b0 1 9 0;k0 5;j0 0;");
+            Play x = Towns.lived().tell("n2;");
             for (int i = 0; i < 149; i++) {
                 x.hour(60);
             }
@@ -241,7 +236,7 @@ public final class BoundsOfCallsTest {
             }
             CHECK.refused("hour(1) above 9000", x.like(), y -> y.hour(1), FULL);
             CHECK.refused("drift(60) above 9000", x.like(), y -> y.drift(60), FULL);
-            CHECK.holds("above 9000 a leap is made", x.like().leap(0, 0) == 1);
+            CHECK.due("a leap above 9000", x.like().leap(0, 0), 1);
         }
     }
 
@@ -249,6 +244,11 @@ public final class BoundsOfCallsTest {
         CHECK.about("18: NOT: none");
         CHECK.refused("undo() of a new object", new Play(), Play::undo, NOT);
         CHECK.refused("undo() of a new town", Check.of("n2;"), Play::undo, NOT);
+        Play lived = Towns.lived().tell("n2;");
+        for (int i = 2; i >= 0; i--) {
+            CHECK.due("undo()", lived.undo(), i);
+        }
+        CHECK.refused("undo() of a town where all is undone", lived, Play::undo, NOT);
         Play x = Check.of("n2;");
         x.hour(1);
         CHECK.due("undo()", x.undo(), 0);
@@ -316,15 +316,16 @@ public final class BoundsOfCallsTest {
         outside("see over", SMALLEST, (x, n) -> x.see(n, true), 0, 40);
         outside("see not over", new Play(), (x, n) -> x.see(n, false), 0, 40);
         CHECK.about("26: FULL (6)");
-        Play x = new Play();
-        for (int i = 1; i <= 6; i++) {
-            CHECK.due("see() number " + i, x.see(20 + i, true), i);
+        for (Play town : new Play[] {new Play(), Towns.lived().tell("n2;")}) {
+            for (int i = town.like().told(12) + 1; i <= 6; i++) {
+                CHECK.due("see() number " + i, town.see(20 + i, true), i);
+            }
+            CHECK.refused("a seventh", town.like(), y -> y.see(5, true), FULL);
+            CHECK.refused("a seventh like the last", town.like(), y -> y.see(26, true), FULL);
+            CHECK.refused("a seventh, not over", town, y -> y.see(5, false), FULL);
+            town.tear();
+            CHECK.due("see() behind tear()", town.see(5, false), 1);
         }
-        CHECK.refused("a seventh", x.like(), y -> y.see(5, true), FULL);
-        CHECK.refused("a seventh like the first", x.like(), y -> y.see(21, true), FULL);
-        CHECK.refused("a seventh, not over", x, y -> y.see(5, false), FULL);
-        CHECK.due("torn", x.tear(), 6);
-        CHECK.due("see() behind tear()", x.see(5, false), 1);
         CHECK.about("27: OUTSIDE");
         outside("quick", SMALLEST, Play::quick, 0, 2);
         CHECK.about("29: UNKNOWN");
@@ -333,15 +334,18 @@ public final class BoundsOfCallsTest {
         unknown("write's jumper", SMALLEST, (y, n) -> y.write(n, 1), 1);
         unknown("write's place", SMALLEST, (y, n) -> y.write(0, n), 2);
         CHECK.about("29: FULL (15)");
-        Play book = Check.of("n3;j0 0;");
-        for (int i = 1; i <= 15; i++) {
-            CHECK.due("write() number " + i, book.write(0, 0), i);
+        for (Play town : new Play[] {Check.of("n3;j0 0;"), Towns.lived().tell("n2;")}) {
+            int place = town.like().jumper(0, 1);
+            for (int i = town.like().told(13) + 1; i <= 15; i++) {
+                CHECK.due("write() number " + i, town.write(0, place), i);
+            }
+            int wrong = town.like().judge();
+            CHECK.refused("a sixteenth", town.like(), y -> y.write(0, place), FULL);
+            CHECK.refused("a sixteenth that is wrong", town, y -> y.write(0, 2), FULL);
+            CHECK.due("judge()", town.judge(), wrong);
+            town.tear();
+            CHECK.due("write() behind tear()", town.write(0, 1), 1);
         }
-        CHECK.refused("a sixteenth", book.like(), y -> y.write(0, 0), FULL);
-        CHECK.refused("a sixteenth that is wrong", book, y -> y.write(0, 1), FULL);
-        CHECK.due("judge()", book.judge(), NONE);
-        CHECK.due("torn", book.tear(), 15);
-        CHECK.due("write() behind tear()", book.write(0, 1), 1);
     }
 
     private static void promises32To34() {

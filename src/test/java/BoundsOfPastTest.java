@@ -21,6 +21,7 @@ public final class BoundsOfPastTest {
         sixteenCanBeUndone();
         undoneAndDoneAgain();
         eachIsUndone();
+        eachKeeperAndJumperIsUndone();
         notUndone();
         seedStays();
         imagesThatWereNotKept();
@@ -295,6 +296,48 @@ public final class BoundsOfPastTest {
         undone("hour(60)", at(x, 0), y -> y.hour(60));
         undone("drift(1)", at(x, 0), y -> y.drift(1));
         undone("drift(60)", at(x, 0), y -> y.drift(60));
+    }
+
+    private static void eachKeeperAndJumperIsUndone() {
+        CHECK.about("3: UNDONE, IMAGES: all of section 2, of the ninth KEEPER and the sixth JUMPER too");
+        Play x = Check.of("n2;b0 1 9 0;" + "k2 9;".repeat(9) + "j0 0;".repeat(6));
+        for (int k = 0; k < 9; k++) {
+            int keeper = k;
+            undone("train(" + k + ")", x.like(), y -> y.train(keeper));
+            Play posted = x.like();
+            posted.rest(0);
+            undone("post(" + k + ", 0)", posted, y -> y.post(keeper, 0));
+            posted.post(k, 0);
+            undone("rest(" + k + ")", posted, y -> y.rest(keeper));
+            undone("a leap by which " + k + " is tired", posted, y -> y.leap(0, 0));
+            comesBack(posted);
+        }
+        for (int j = 0; j < 6; j++) {
+            int jumper = j;
+            undone("talk(" + j + ", 30)", x.like(), y -> y.talk(jumper, 30));
+            undone("a leap of " + j, x.like(), y -> y.leap(jumper, 0));
+            Play rested = x.like();
+            rested.rest(0);
+            undone("a leap of " + j + " dried", rested, y -> y.leap(jumper, 0));
+            rested.leap(j, 0);
+            comesBack(rested);
+        }
+    }
+
+    /** To an image, from all that is otherwise. */
+    private static void comesBack(Play x) {
+        String kept = Picture.ofSection2(x);
+        x.keep(1);
+        for (int k = 0; k < 9; k++) {
+            x.train(k);
+            x.rest(k);
+            x.post(k, 0);
+            x.leap(k % 6, 0);
+            x.talk(k % 6, 20 + k);
+        }
+        x.hour(1);
+        CHECK.due("goBack(1)", x.goBack(1), 1);
+        CHECK.holds("the image is not what was kept", Picture.ofSection2(x).equals(kept));
     }
 
     /** A like object, jumper j in a place from which it can leap (0 or 3 have bridge 3). */

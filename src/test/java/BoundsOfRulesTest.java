@@ -10,6 +10,7 @@ public final class BoundsOfRulesTest {
         tiredAtMost();
         tiredAtLeast();
         tiredOfThoseAtNone();
+        hourOfTheNinthKeeper();
         timeOfExactAndYoung();
         timeOfOldAndProud();
         doubtAtMost();
@@ -88,6 +89,23 @@ public final class BoundsOfRulesTest {
                 x.hour(hours);
                 CHECK.due("tired by " + leaps + ", " + hours + " hours later", x.keeper(0, 3), Math.max(0, leaps - 3 * hours));
             }
+        }
+    }
+
+    private static void hourOfTheNinthKeeper() {
+        CHECK.about("2: AN HOUR: all KEEPERS, be they more than BRIDGES and JUMPERS");
+        for (int k = 0; k < 9; k++) {
+            Play x = Check.of("n2;b0 1 2 0;" + "k0 40;".repeat(9) + "j0 0;");
+            x.rest(0);
+            x.post(k, 0);
+            for (int i = 0; i < 5; i++) {
+                x.leap(0, 0);
+            }
+            x.hour(1);
+            CHECK.due("keeper " + k + " at his bridge", x.keeper(k, 3), 4);
+            x.rest(k);
+            x.hour(1);
+            CHECK.due("keeper " + k + " at none", x.keeper(k, 3), 1);
         }
     }
 

@@ -7,6 +7,7 @@ public final class BoundsOfTermsTest {
 
     public static void main(String[] args) {
         refusals();
+        asItComes();
         unknownAheadOfOutside();
         unknownAheadOfNot();
         unknownAheadOfFull();
@@ -36,6 +37,35 @@ public final class BoundsOfTermsTest {
         CHECK.due("OUTSIDE", LateBridges.OUTSIDE, -1000000002);
         CHECK.due("NOT", LateBridges.NOT, -1000000003);
         CHECK.due("FULL", LateBridges.FULL, -1000000004);
+    }
+
+    private static void asItComes() {
+        CHECK.about("What has a number has it from 0 on, as it comes");
+        int[][] bridges = {{7, 0, 2, 99}, {0, 1, 40, 0}, {3, 1, 30, 1}, {1, 7, 21, 2}, {5, 6, 3, 50}, {6, 4, 22, 98},
+            {2, 7, 33, 10}, {4, 2, 9, 9}, {3, 0, 39, 7}};
+        int[][] keepers = {{3, 40}, {0, 1}, {2, 2}, {1, 39}, {1, 20}, {0, 21}, {3, 3}, {2, 30}, {1, 10}};
+        int[][] jumpers = {{3, 7}, {0, 6}, {2, 1}, {1, 0}, {1, 5}, {2, 4}};
+        StringBuilder text = new StringBuilder("n8;");
+        for (int i = 0; i < 9; i++) {
+            int[] b = bridges[i];
+            text.append('b').append(b[0]).append(' ').append(b[1]).append(' ').append(b[2]).append(' ').append(b[3]).append(';');
+            text.append('k').append(keepers[i][0]).append(' ').append(keepers[i][1]).append(';');
+            if (i < 6) {
+                text.append('j').append(jumpers[i][0]).append(' ').append(jumpers[i][1]).append(';');
+            }
+        }
+        Play x = Check.of(text.toString());
+        for (int i = 0; i < 9; i++) {
+            for (int what = 0; what < 4; what++) {
+                CHECK.due("bridge(" + i + ", " + what + ")", x.bridge(i, what), bridges[i][what]);
+            }
+            CHECK.due("keeper(" + i + ", 0)", x.keeper(i, 0), keepers[i][0]);
+            CHECK.due("keeper(" + i + ", 1)", x.keeper(i, 1), keepers[i][1]);
+        }
+        for (int j = 0; j < 6; j++) {
+            CHECK.due("jumper(" + j + ", 0)", x.jumper(j, 0), jumpers[j][0]);
+            CHECK.due("jumper(" + j + ", 1)", x.jumper(j, 1), jumpers[j][1]);
+        }
     }
 
     private static void unknownAheadOfOutside() {

@@ -6,7 +6,6 @@ public final class BoundsOfTextTest {
     private static final int NONE = Check.NONE, FULL = Check.FULL;
     private static final String[] NINE_BRIDGES = {"b0 1 2 0;", "b0 2 2 0;", "b0 3 2 0;", "b0 4 2 0;", "b0 5 2 0;",
         "b0 6 2 0;", "b0 7 2 0;", "b1 2 2 0;", "b1 3 2 0;"};
-    private static final String FULL_TOWN = "n4;b0 1 9 5;b1 2 9 5;k0 3;k2 4;k3 5;j0 0;j1 1;";
 
     public static void main(String[] args) {
         letters();
@@ -63,6 +62,8 @@ public final class BoundsOfTextTest {
         CHECK.due("letters", x.told(4), 240);
         CHECK.refused("feed() of letter 241", x, y -> y.feed(' '), FULL);
         CHECK.refused("feed() of one that would be a fault", x, y -> y.feed('x'), FULL);
+        Play lived = Towns.lived().tell("n3;" + " ".repeat(237));
+        CHECK.refused("feed() of letter 241 where there is a town", lived, y -> y.feed(' '), FULL);
         CHECK.due("town() of 240 letters", x.like().town(), 0);
         x.town();
         CHECK.due("places", x.told(0), 2);
@@ -100,27 +101,28 @@ public final class BoundsOfTextTest {
     /** Each number 0 to 999 in each place of a number, told as short as it can be and with three figures. */
     private static void numbersInTheirBounds() {
         CHECK.about("1: N 2 .. 8");
-        eachNumber("n", ";", 2, 8, 0);
+        eachNumber("n", ";", 2, 8, x -> x.told(0));
         CHECK.about("1: AIR T, 2 .. 40");
-        eachNumber("n2;b0 1 ", " 0;", 2, 40, 1);
+        eachNumber("n2;b0 1 ", " 50;", 2, 40, x -> x.bridge(0, 2));
         CHECK.about("1: JAMS Q times of a hundred, 0 .. 99");
-        eachNumber("n2;b0 1 2 ", ";", 0, 99, 1);
+        eachNumber("n2;b0 1 2 ", ";", 0, 99, x -> x.bridge(0, 3));
         CHECK.about("1: 'k': KIND K, 0 .. 3");
-        eachNumber("n2;k", " 1;", 0, 3, 0);
+        eachNumber("n2;k", " 20;", 0, 3, x -> x.keeper(0, 0));
         CHECK.about("1: needs R, 1 .. 40");
-        eachNumber("n2;k0 ", ";", 1, 40, 0);
+        eachNumber("n2;k0 ", ";", 1, 40, x -> x.keeper(0, 1));
         CHECK.about("1: 'j': KIND K, 0 .. 3");
-        eachNumber("n2;j", " 0;", 0, 3, 0);
+        eachNumber("n2;k0 20;j", " 0;", 0, 3, x -> x.jumper(0, 0));
     }
 
-    private static void eachNumber(String before, String behind, int least, int most, int bridges) {
+    private static void eachNumber(String before, String behind, int least, int most, Check.Call asked) {
+        int bridges = before.contains("b") ? 1 : 0;
         for (int n = 0; n <= 999; n++) {
             for (String told : new String[] {"" + n, String.format("%03d", n)}) {
                 if (n < least || n > most) {
                     fault(before + told + behind, 2, before.length());
                     fault(before + told, 2, before.length());
                 } else {
-                    good(before + told + behind, bridges);
+                    CHECK.due(told + " in " + before, asked.on(good(before + told + behind, bridges)), n);
                     fault(before + told, 1, before.length() + told.length());
                 }
             }
@@ -482,7 +484,7 @@ public final class BoundsOfTextTest {
     private static void emptyTextAheadOfATown() {
         CHECK.about("1: An empty text: no TOWN, where there was one");
         for (int blanks : new int[] {0, 1, 40}) {
-            Play x = lived();
+            Play x = Towns.lived();
             x.tell(" ".repeat(blanks));
             CHECK.due("town() of " + blanks + " blanks", x.town(), 0);
             CHECK.due("the seed stays", x.like().seed(0), 77);
@@ -491,32 +493,13 @@ public final class BoundsOfTextTest {
         }
     }
 
-    /** Something of all that a town() without a fault ends, both have been over and dried; THE SEED is 77. */
-    private static Play lived() {
-        Play x = Check.of(FULL_TOWN);
-        x.leap(0, 0);
-        x.leap(1, 1);
-        x.keep(0);
-        x.rest(1);
-        x.leap(0, 1);
-        x.leap(1, 1);
-        x.keep(1);
-        x.drift(5);
-        x.train(2);
-        x.talk(1, 9);
-        x.see(3, false);
-        x.write(0, 3);
-        x.seed(77);
-        return x;
-    }
-
     private static void townWithAFault() {
         CHECK.about("3: THE TEXT (it is empty then, with a FAULT, too); -10 less its number (all else is as it was)");
         String[] faulty = {"x", "n9;", "n2;n2;", "n2;b0 0 2 0;", "n2;b0 1 2 0;k0 1;j0 1;x"};
         int[] answers = {-11, -12, -13, -14, -11};
         int[] at = {0, 1, 3, 6, 22};
         for (int i = 0; i < faulty.length; i++) {
-            Play x = lived();
+            Play x = Towns.lived();
             String before = Picture.withoutText(x);
             x.tell(faulty[i]);
             CHECK.due("town() of '" + faulty[i] + "'", x.town(), answers[i]);
@@ -528,8 +511,8 @@ public final class BoundsOfTextTest {
 
     private static void townForgets() {
         CHECK.about("3: HOUR 0, KEEPERS posted, JUMPERS as told, nobody TIRED, ...; THE SEED stays");
-        for (String text : new String[] {FULL_TOWN, "n2;", "n8;b7 6 40 99;k3 40;j3 7;"}) {
-            Play x = lived();
+        for (String text : new String[] {Towns.SMALL, "n2;", "n8;b7 6 40 99;k3 40;j3 7;"}) {
+            Play x = Towns.lived();
             x.tell(text);
             CHECK.holds("both were over and dried", x.like().jumper(0, 3) > 0 && x.like().jumper(0, 4) > 0
                 && x.like().jumper(1, 3) > 0 && x.like().jumper(1, 4) > 0);

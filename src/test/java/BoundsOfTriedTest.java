@@ -77,8 +77,19 @@ public final class BoundsOfTriedTest {
         Play x = Check.of("n8;b0 1 9 0;b2 3 10 0;b4 5 11 0;b6 7 40 0;k0 10;k0 10;k0 10;k0 10;j0 0;j3 7;");
         CHECK.due("dares", x.jumper(0, 5), 14);
         CHECK.due("a cart dares", x.jumper(1, 5), 8);
+        for (int b = 0; b < 9; b++) {
+            CHECK.due("the one with a keeper", oneKeeperAt(b).jumper(0, 5), 1 << b);
+        }
         CHECK.due("nothing without bridges", Check.of("n2;k0 1;j0 0;").jumper(0, 5), 0);
         CHECK.due("nothing without keepers", Check.of("n2;b0 1 40 0;j0 0;").jumper(0, 5), 0);
+    }
+
+    /** Four places, six bridges between all of them, three to others; the one keeper is at bridge b. */
+    private static Play oneKeeperAt(int b) {
+        Play x = Check.of("n7;b0 1 9 0;b0 2 9 0;b0 3 9 0;b1 2 9 0;b1 3 9 0;b2 3 9 0;b3 4 9 0;b3 5 9 0;b3 6 9 7;k0 9;j0 3;");
+        x.rest(0);
+        x.post(0, b);
+        return x;
     }
 
     private static void wayItIsThere() {
@@ -97,6 +108,8 @@ public final class BoundsOfTriedTest {
         way(Check.of("n2;b0 1 9 0;k0 10;j0 0;"), 1, NONE, NONE);
         way(Check.of("n2;b0 1 9 0;k0 9;j0 0;"), 1, 1, 0);
         way(Check.of("n4;b0 1 9 0;b2 3 9 0;k0 9;k0 9;j0 0;"), 2, NONE, NONE);
+        way(oneKeeperAt(7), 6, NONE, NONE);
+        way(oneKeeperAt(8), 6, 1, 8);
         way(Check.of("n4;b0 1 9 0;b2 3 9 0;b1 2 9 0;k0 9;k0 9;k0 10;j0 0;"), 3, NONE, NONE);
         way(Check.of("n4;b0 1 9 0;b2 3 9 0;b1 2 9 0;k0 9;k0 9;k0 9;j0 0;"), 3, 3, 0);
     }
@@ -139,6 +152,8 @@ public final class BoundsOfTriedTest {
         safest(Check.of("n2;b0 1 9 0;k0 10;j0 0;"), 1, NONE, NONE);
         safest(Check.of("n2;b0 1 9 99;k0 9;j0 0;"), 1, 10000000, 0);
         safest(Check.of("n4;b0 1 9 0;b2 3 9 0;k0 9;k0 9;j0 0;"), 2, NONE, NONE);
+        safest(oneKeeperAt(7), 6, NONE, NONE);
+        safest(oneKeeperAt(8), 6, 930000000, 8);
     }
 
     private static void safestIsCutInTurn() {
@@ -200,6 +215,9 @@ public final class BoundsOfTriedTest {
         posts(Check.of("n2;b0 1 9 0;k0 10;j0 0;"), 0, NONE);
         posts(Check.of("n2;b0 1 9 0;k0 9;j0 0;"), 1, 0);
         posts(Check.of("n2;b0 1 9 0;k0 10;k0 9;j0 0;"), 1, 1);
+        posts(Check.of("n2;b0 1 9 0;k0 10;k0 10;j0 0;"), 0, NONE);
+        posts(Check.of("n2;b0 1 9 0;" + "k0 10;".repeat(9) + "j0 0;"), 0, NONE);
+        posts(Check.of("n2;b0 1 9 0;" + "k0 10;".repeat(8) + "k0 9;j0 0;"), 1, 8);
         posts(Check.of("n3;b0 1 9 0;b1 2 8 0;k0 9;k0 9;j0 0;"), 1, 0, NONE);
         posts(Check.of("n3;b0 1 8 0;b1 2 9 0;k0 9;k0 9;j0 0;"), 1, NONE, 0);
     }
