@@ -26,23 +26,28 @@ public final class ModelTest {
 
     private void go() {
         tell();
-        while (calls < CALLS && CHECK.wrong() < MOST_WRONG) {
+        // Some of them make two calls.
+        while (calls < CALLS - 1 && CHECK.wrong() < MOST_WRONG) {
             call(random.nextInt(CALLED));
         }
     }
 
     private void same(String call, int got, int due) {
         calls++;
+        CHECK.holds("more than 512 calls", calls <= CALLS);
         CHECK.due("run " + run + ", call " + calls + ": " + call, got, due);
     }
 
     private void tell() {
         String text = text();
-        for (int i = 0; i < text.length(); i++) {
+        int fed = Math.min(text.length(), CALLS - 2 - calls);
+        for (int i = 0; i < fed; i++) {
             same("feed(" + (int) text.charAt(i) + ")", x.feed(text.charAt(i)), model.feed(text.charAt(i)));
         }
-        same("town() of '" + text + "'", x.town(), model.town());
-        same("fault() of '" + text + "'", x.fault(), model.fault());
+        if (calls <= CALLS - 2) {
+            same("town() of '" + text + "'", x.town(), model.town());
+            same("fault() of '" + text + "'", x.fault(), model.fault());
+        }
     }
 
     /** A town's text; of four, one has a letter changed, left out or put in. */
