@@ -9,24 +9,20 @@ import java.util.ArrayList;
 import java.util.Arrays;
 import java.util.List;
 import java.util.Set;
-import java.util.TreeSet;
 import java.util.regex.Matcher;
 import java.util.regex.Pattern;
+import java.util.stream.Collectors;
 
 /** The face of the class, and the rules of LANGUAGE.md that can be seen in the class or in its source. */
 public final class LanguageTest {
     private static final Check CHECK = new Check("LanguageTest");
     private static final Path SOURCE = Path.of("src/main/java/LateBridges.java");
-    private static final String[] FACE = {
-        "feed 1", "town 0", "fault 0", "told 1", "bridge 2", "keeper 2", "jumper 2", "flight 2", "roll 2", "leap 2",
-        "post 2", "rest 1", "train 1", "talk 2", "hour 1", "drift 1", "undo 0", "way 3", "safest 3", "posts 2",
-        "tires 2", "parted 2", "pays 2", "exact 2", "see 2", "quick 1", "watch 0", "write 2", "tear 0", "judge 0",
-        "seed 1", "keep 1", "goBack 1",
-    };
+    private static final Path DOCUMENT = Path.of("../shared/DOC.md");
 
-    public static void main(String[] args) throws IOException {
-        rule1Face();
-        rules2And5ClassesInside();
+    public static void main(String[] args) throws IOException, IllegalAccessException {
+        List<String> face = faceOfTheDocument();
+        rule1Face(face);
+        rules2And5ClassesInside(face);
         String source = Files.readString(SOURCE);
         String code = withoutCommentsAndTexts(source);
         forbiddenWords(code);
@@ -35,39 +31,69 @@ public final class LanguageTest {
         CHECK.end();
     }
 
-    private static void rule1Face() {
-        Set<String> found = new TreeSet<>();
-        for (Method m : LateBridges.class.getDeclaredMethods()) {
-            if (Modifier.isPublic(m.getModifiers())) {
-                CHECK.holds(m + " is not of the object", !Modifier.isStatic(m.getModifiers()));
-                CHECK.holds(m + " does not answer an int", m.getReturnType() == int.class);
-                found.add(m.getName() + " " + m.getParameterCount());
-            } else {
-                CHECK.holds(m + " is not private", Modifier.isPrivate(m.getModifiers()));
-                CHECK.holds(m + " bears a public one's name", !bearsPublicName(m));
+    /** Its members one by one, each without the names of what it takes. */
+    private static List<String> faceOfTheDocument() throws IOException {
+        String document = Files.readString(DOCUMENT);
+        int begin = document.indexOf("public final class LateBridges {");
+        String block = document.substring(document.indexOf('\n', begin), document.indexOf("\n}", begin));
+        List<String> members = new ArrayList<>();
+        for (String line : block.split(";")) {
+            String member = line.strip();
+            if (member.startsWith("public static final int ")) {
+                for (String constant : member.substring("public static final int ".length()).split(", ")) {
+                    members.add("public static final int " + constant);
+                }
+            } else if (!member.isEmpty()) {
+                members.add(member.replaceAll("(int|boolean) \\w+(?=[,)])", "$1"));
             }
         }
-        CHECK.holds("the face is " + found, found.equals(new TreeSet<>(Arrays.asList(FACE))));
-        for (Constructor<?> c : LateBridges.class.getDeclaredConstructors()) {
-            CHECK.holds(c + " is not the face's", Modifier.isPublic(c.getModifiers()) && c.getParameterCount() == 0);
+        CHECK.due("members of the document's face", members.size(), 5 + 1 + 33);
+        return members;
+    }
+
+    private static void rule1Face(List<String> face) throws IllegalAccessException {
+        List<String> found = new ArrayList<>();
+        for (Method m : LateBridges.class.getDeclaredMethods()) {
+            if (Modifier.isPrivate(m.getModifiers())) {
+                CHECK.holds(m + " bears a public one's name", !bearsPublicName(m, face));
+            } else {
+                CHECK.holds(m + " says that it throws", m.getExceptionTypes().length == 0);
+                found.add(Modifier.toString(m.getModifiers()) + " " + m.getReturnType() + " " + m.getName()
+                    + taken(m.getParameterTypes()));
+            }
         }
-        Set<String> constants = new TreeSet<>();
+        for (Constructor<?> c : LateBridges.class.getDeclaredConstructors()) {
+            CHECK.holds(c + " says that it throws", c.getExceptionTypes().length == 0);
+            found.add((Modifier.toString(c.getModifiers()) + " " + c.getName()).strip() + taken(c.getParameterTypes()));
+        }
         for (Field f : LateBridges.class.getDeclaredFields()) {
             if (!Modifier.isPrivate(f.getModifiers())) {
-                constants.add(f.getName());
+                found.add(Modifier.toString(f.getModifiers()) + " " + f.getType() + " " + f.getName() + " = " + valueOf(f));
             }
         }
-        CHECK.holds("public constants are " + constants,
-            constants.equals(new TreeSet<>(List.of("NONE", "UNKNOWN", "OUTSIDE", "NOT", "FULL"))));
-        CHECK.holds("the class is public and final",
-            Modifier.isPublic(LateBridges.class.getModifiers()) && Modifier.isFinal(LateBridges.class.getModifiers()));
+        CHECK.holds("the face is " + found + ", due is " + face, sorted(found).equals(sorted(face)));
+        CHECK.holds("the class is public and final, and extends and implements nothing",
+            LateBridges.class.getModifiers() == (Modifier.PUBLIC | Modifier.FINAL)
+                && LateBridges.class.getSuperclass() == Object.class && LateBridges.class.getInterfaces().length == 0);
     }
 
-    private static boolean bearsPublicName(Method m) {
-        return Arrays.stream(FACE).anyMatch(f -> f.startsWith(m.getName() + " "));
+    private static String taken(Class<?>[] types) {
+        return Arrays.stream(types).map(Class::getName).collect(Collectors.joining(", ", "(", ")"));
     }
 
-    private static void rules2And5ClassesInside() {
+    private static String valueOf(Field f) throws IllegalAccessException {
+        return Modifier.isStatic(f.getModifiers()) ? String.valueOf(f.get(null)) : "one for each object";
+    }
+
+    private static List<String> sorted(List<String> members) {
+        return members.stream().sorted().collect(Collectors.toList());
+    }
+
+    private static boolean bearsPublicName(Method m, List<String> face) {
+        return face.stream().anyMatch(f -> f.contains(" " + m.getName() + "("));
+    }
+
+    private static void rules2And5ClassesInside(List<String> face) {
         List<Class<?>> classes = new ArrayList<>(List.of(LateBridges.class.getDeclaredClasses()));
         CHECK.holds("more than twelve classes", classes.size() + 1 <= 12);
         classes.add(LateBridges.class);
@@ -83,7 +109,7 @@ public final class LanguageTest {
             CHECK.holds(c + " has more than twenty fields", fields <= 20);
             for (Method m : c.getDeclaredMethods()) {
                 CHECK.holds(m + " takes more than seven", m.getParameterCount() <= 7);
-                CHECK.holds(m + " bears a public one's name", c == LateBridges.class || !bearsPublicName(m));
+                CHECK.holds(m + " bears a public one's name", c == LateBridges.class || !bearsPublicName(m, face));
             }
         }
     }
